@@ -10,12 +10,15 @@ public final class ModelTest {
     private final SideTreeText text = new SideTreeText();
     private final PlainModel model = new PlainModel();
     private final int[] weights;
+    private final int slow;
 
     private ModelTest(long seed) {
         random = new Random(seed);
         // How often a run inserts, erases, delivers and asks differs, so that some runs fill the trays
         // and others bring all replicas together.
         weights = new int[] {1 + random.nextInt(6), random.nextInt(6), random.nextInt(10), 6};
+        // In half of the runs one replica is never delivered to, so that its tray fills up first.
+        slow = random.nextInt(6);
     }
 
     public static void main(String[] args) {
@@ -39,8 +42,9 @@ public final class ModelTest {
             int i = place(model.length(r));
             Check.due(at + "erase(" + r + ", " + i + ")", text.erase(r, i), model.erase(r, i));
         } else if (pick < weights[0] + weights[1] + weights[2]) {
-            int k = place(model.tray(r));
-            Check.due(at + "deliver(" + r + ", " + k + ")", text.deliver(r, k), model.deliver(r, k));
+            int to = r == slow ? (r + 1) % 3 : r;
+            int k = place(model.tray(to));
+            Check.due(at + "deliver(" + to + ", " + k + ")", text.deliver(to, k), model.deliver(to, k));
         } else {
             ask(at, r);
         }

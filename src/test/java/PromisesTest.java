@@ -318,6 +318,8 @@ public final class PromisesTest {
         Check.due("parent", x.about(3, 2), 1);
         Check.due("side", x.about(3, 3), 0);
         Check.due("right origin", x.about(3, 4), 1);
+        Check.due("parent", x.about(2, 2), 1);
+        Check.due("end though not below the root", x.about(2, 4), -1);
         Check.due("replica", x.about(4, 0), 2);
         Check.due("character", x.about(4, 1), Integer.MAX_VALUE);
         Check.due("root", x.about(4, 2), -1);

@@ -38,6 +38,12 @@ public final class TermsTest {
         x.insert(0, 1, 'd');
         Check.due("behind a left child", Probe.hang(x, 3), List.of(2, RIGHT, 0));
         Check.due("text", Probe.text(x, 0), List.of(2, 3, 0, 1));
+
+        SideTreeText y = new SideTreeText();
+        y.insert(0, 0, 'a');
+        y.insert(0, 0, 'b');
+        y.insert(0, 2, 'c');
+        Check.due("a left child does not count", Probe.hang(y, 2), List.of(0, RIGHT, END));
     }
 
     private static void insertionHangsLeftOfNextOtherwise() {
