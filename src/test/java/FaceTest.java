@@ -16,15 +16,19 @@ public final class FaceTest {
     private static final Set<String> CONSTANTS = new TreeSet<>(Arrays.asList("BAD", "FULL", "NONE"));
 
     public static void main(String[] args) {
-        Check.due("modifiers", SideTreeText.class.getModifiers(), Modifier.PUBLIC | Modifier.FINAL);
-        Check.due("BAD", SideTreeText.BAD, -1);
-        Check.due("FULL", SideTreeText.FULL, -2);
-        Check.due("NONE", SideTreeText.NONE, -3);
-        methods();
-        constants();
-        constructors();
-        innerClasses();
+        Check.test("The public face: class", FaceTest::classItself);
+        Check.test("The public face: methods", FaceTest::methods);
+        Check.test("The public face: constants", FaceTest::constants);
+        Check.test("The public face: constructor", FaceTest::constructors);
+        Check.test("The public face: classes inside", FaceTest::innerClasses);
         Check.end();
+    }
+
+    private static void classItself() {
+        Check.due("modifiers", SideTreeText.class.getModifiers(), Modifier.PUBLIC | Modifier.FINAL);
+        Check.due("superclass", SideTreeText.class.getSuperclass(), Object.class);
+        Check.due("interfaces", SideTreeText.class.getInterfaces().length, 0);
+        Check.due("package", SideTreeText.class.getPackageName(), "");
     }
 
     private static void methods() {
@@ -59,6 +63,9 @@ public final class FaceTest {
     }
 
     private static void constants() {
+        Check.due("BAD", SideTreeText.BAD, -1);
+        Check.due("FULL", SideTreeText.FULL, -2);
+        Check.due("NONE", SideTreeText.NONE, -3);
         Set<String> open = new TreeSet<>();
         for (Field f : SideTreeText.class.getDeclaredFields()) {
             if (!Modifier.isPrivate(f.getModifiers())) {

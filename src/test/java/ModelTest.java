@@ -22,13 +22,17 @@ public final class ModelTest {
     }
 
     public static void main(String[] args) {
+        Check.test("All promises: mixed calls answer as the plain model does", ModelTest::runs);
+        Check.end();
+    }
+
+    private static void runs() {
         for (long seed = 0; seed < RUNS && Check.wrongSoFar() == 0; seed++) {
             ModelTest run = new ModelTest(seed);
             for (int n = 0; n < CALLS && Check.wrongSoFar() == 0; n++) {
                 run.call("seed " + seed + " call " + n + ": ");
             }
         }
-        Check.end();
     }
 
     private void call(String at) {

@@ -8,7 +8,7 @@ final class Probe {
 
     static List<Integer> text(SideTreeText x, int replica) {
         List<Integer> row = new ArrayList<>();
-        for (int i = 0; i < x.length(replica); i++) {
+        for (int i = 0, length = x.length(replica); i < length; i++) {
             row.add(x.shown(replica, i));
         }
         return row;
@@ -16,7 +16,7 @@ final class Probe {
 
     static List<Integer> order(SideTreeText x, int replica) {
         List<Integer> row = new ArrayList<>();
-        for (int i = 0; i < x.known(replica); i++) {
+        for (int i = 0, known = x.known(replica); i < known; i++) {
             row.add(x.ordered(replica, i));
         }
         return row;
@@ -24,7 +24,7 @@ final class Probe {
 
     static List<Integer> tray(SideTreeText x, int replica) {
         List<Integer> row = new ArrayList<>();
-        for (int k = 0; k < x.tray(replica); k++) {
+        for (int k = 0, tray = x.tray(replica); k < tray; k++) {
             row.add(x.message(replica, k));
         }
         return row;

@@ -10,40 +10,74 @@ public final class PromisesBoundaryTest {
     private static final int[] NOWHERE = {MIN, MIN + 1, -3, -2, -1, 30, 31, 50, 51, MAX - 1, MAX};
 
     public static void main(String[] args) {
-        newObjectHasNoElementsAndNoMessages();
-        insertIsBadOutsideZeroToLength();
-        insertIsBadBehindAnEmptyText();
-        insertIsFullWhenThirtyWereMade();
-        insertIsFullWhenAnotherTrayHasFifty();
-        insertTakesAnyCharacter();
-        eraseIsBadOutsideZeroToLengthLessOne();
-        eraseIsBadInAnEmptyText();
-        eraseIsFullWhenAnotherTrayHasFifty();
-        eraseIsNotFullWhenThirtyWereMade();
-        deliverIsBadWithoutSuchAMessage();
-        deliverAnswersZeroWhenItWaits();
-        deliverCountsAllThatTakeEffect();
-        lengthFromNoneToThirty();
-        shownIsNoneOutsideTheText();
-        orderedIsNoneOutsideTheOrder();
-        knownFromNoneToThirty();
-        stateIsZeroWhenNotKnownThere();
-        stateIsZeroWhenThereIsNone();
-        trayFromNoneToFifty();
-        waitingFromNoneToEightyNine();
-        messageIsNoneOutsideTheTray();
-        messageTellsTheFirstAndTheLastElement();
-        madeFromNoneToThirty();
-        aboutIsNoneWithoutSuchAnElement();
-        aboutIsNoneForAnotherWhat();
-        aboutTellsCharactersThatLookLikeRefusals();
-        depthFromNoneToTwentyNine();
-        depthIsNoneWithoutSuchAnElement();
-        differIsThePlaceOfTheFirstOtherElement();
-        differIsWhereOneOfThemEnds();
-        differGoesByElementsNotCharacters();
-        differIsNoneWhenTheyAreTheSame();
-        differIsBadForEither();
+        Check.test("Promise 1: a new object has no elements and no messages",
+                PromisesBoundaryTest::newObjectHasNoElementsAndNoMessages);
+        Check.test("Promise 2: insert is BAD outside 0 .. length",
+                PromisesBoundaryTest::insertIsBadOutsideZeroToLength);
+        Check.test("Promise 2: insert is BAD behind an empty text",
+                PromisesBoundaryTest::insertIsBadBehindAnEmptyText);
+        Check.test("Promise 2: insert is FULL when 30 were made",
+                PromisesBoundaryTest::insertIsFullWhenThirtyWereMade);
+        Check.test("Promise 2: insert is FULL when another tray has 50",
+                PromisesBoundaryTest::insertIsFullWhenAnotherTrayHasFifty);
+        Check.test("Promise 2: insert takes any character",
+                PromisesBoundaryTest::insertTakesAnyCharacter);
+        Check.test("Promise 3: erase is BAD outside 0 .. length - 1",
+                PromisesBoundaryTest::eraseIsBadOutsideZeroToLengthLessOne);
+        Check.test("Promise 3: erase is BAD in an empty text",
+                PromisesBoundaryTest::eraseIsBadInAnEmptyText);
+        Check.test("Promise 3: erase is FULL when another tray has 50",
+                PromisesBoundaryTest::eraseIsFullWhenAnotherTrayHasFifty);
+        Check.test("Promise 3: erase is not FULL when 30 were made",
+                PromisesBoundaryTest::eraseIsNotFullWhenThirtyWereMade);
+        Check.test("Promise 4: deliver is BAD without such a message",
+                PromisesBoundaryTest::deliverIsBadWithoutSuchAMessage);
+        Check.test("Promise 4: deliver answers 0 when it waits",
+                PromisesBoundaryTest::deliverAnswersZeroWhenItWaits);
+        Check.test("Promise 4: deliver counts all that take effect",
+                PromisesBoundaryTest::deliverCountsAllThatTakeEffect);
+        Check.test("Promise 5: length from none to 30",
+                PromisesBoundaryTest::lengthFromNoneToThirty);
+        Check.test("Promise 6: shown is NONE outside the text",
+                PromisesBoundaryTest::shownIsNoneOutsideTheText);
+        Check.test("Promise 7: ordered is NONE outside the order",
+                PromisesBoundaryTest::orderedIsNoneOutsideTheOrder);
+        Check.test("Promise 8: known from none to 30",
+                PromisesBoundaryTest::knownFromNoneToThirty);
+        Check.test("Promise 9: state is 0 when not known there",
+                PromisesBoundaryTest::stateIsZeroWhenNotKnownThere);
+        Check.test("Promise 9: state is 0 when there is none",
+                PromisesBoundaryTest::stateIsZeroWhenThereIsNone);
+        Check.test("Promise 10: tray from none to 50",
+                PromisesBoundaryTest::trayFromNoneToFifty);
+        Check.test("Promise 11: waiting from none to 89",
+                PromisesBoundaryTest::waitingFromNoneToEightyNine);
+        Check.test("Promise 12: message is NONE outside the tray",
+                PromisesBoundaryTest::messageIsNoneOutsideTheTray);
+        Check.test("Promise 12: message tells the first and the last element",
+                PromisesBoundaryTest::messageTellsTheFirstAndTheLastElement);
+        Check.test("Promise 13: made from none to 30",
+                PromisesBoundaryTest::madeFromNoneToThirty);
+        Check.test("Promise 14: about is NONE without such an element",
+                PromisesBoundaryTest::aboutIsNoneWithoutSuchAnElement);
+        Check.test("Promise 14: about is NONE for another what",
+                PromisesBoundaryTest::aboutIsNoneForAnotherWhat);
+        Check.test("Promise 14: about tells characters that look like refusals",
+                PromisesBoundaryTest::aboutTellsCharactersThatLookLikeRefusals);
+        Check.test("Promise 15: depth from 0 to 29",
+                PromisesBoundaryTest::depthFromNoneToTwentyNine);
+        Check.test("Promise 15: depth is NONE without such an element",
+                PromisesBoundaryTest::depthIsNoneWithoutSuchAnElement);
+        Check.test("Promise 16: differ is the place of the first other element",
+                PromisesBoundaryTest::differIsThePlaceOfTheFirstOtherElement);
+        Check.test("Promise 16: differ is where one of them ends",
+                PromisesBoundaryTest::differIsWhereOneOfThemEnds);
+        Check.test("Promise 16: differ goes by elements, not characters",
+                PromisesBoundaryTest::differGoesByElementsNotCharacters);
+        Check.test("Promise 16: differ is NONE when they are the same",
+                PromisesBoundaryTest::differIsNoneWhenTheyAreTheSame);
+        Check.test("Promise 16: differ is BAD for either",
+                PromisesBoundaryTest::differIsBadForEither);
         Check.end();
     }
 

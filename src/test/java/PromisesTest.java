@@ -5,70 +5,44 @@ public final class PromisesTest {
     private static final int BAD = SideTreeText.BAD;
     private static final int FULL = SideTreeText.FULL;
     private static final int NONE = SideTreeText.NONE;
-    private static final int[] NO_REPLICAS = {-1, 3, 4, Integer.MIN_VALUE, Integer.MAX_VALUE};
     private static final int[] NO_ELEMENTS = {-1, -3, 3, 30, Integer.MIN_VALUE, Integer.MAX_VALUE};
 
     public static void main(String[] args) {
-        promise1();
-        promise2();
-        promise2Full();
-        promise3();
-        promise3Full();
-        promise4();
-        promise5();
-        promise6();
-        promise7();
-        promise8();
-        promise9();
-        promise10();
-        promise11();
-        promise12();
-        promise13();
-        promise14();
-        promise15();
-        promise16();
-        noSuchReplica();
-        refusedCallsChangeNothing();
-        objectsAreApart();
+        Check.test("Promise 1: A new object", PromisesTest::promise1);
+        Check.test("Promise 1: objects are apart", PromisesTest::objectsAreApart);
+        Check.test("Promise 2: insert", PromisesTest::promise2);
+        Check.test("Promise 2: insert when it is FULL", PromisesTest::promise2Full);
+        Check.test("Promise 3: erase", PromisesTest::promise3);
+        Check.test("Promise 3: erase when it is FULL", PromisesTest::promise3Full);
+        Check.test("Promise 4: deliver", PromisesTest::promise4);
+        Check.test("Promise 5: length", PromisesTest::promise5);
+        Check.test("Promise 6: shown", PromisesTest::promise6);
+        Check.test("Promise 7: ordered", PromisesTest::promise7);
+        Check.test("Promise 8: known", PromisesTest::promise8);
+        Check.test("Promise 9: state", PromisesTest::promise9);
+        Check.test("Promise 10: tray", PromisesTest::promise10);
+        Check.test("Promise 11: waiting", PromisesTest::promise11);
+        Check.test("Promise 12: message", PromisesTest::promise12);
+        Check.test("Promise 13: made", PromisesTest::promise13);
+        Check.test("Promise 14: about", PromisesTest::promise14);
+        Check.test("Promise 15: depth", PromisesTest::promise15);
+        Check.test("Promise 16: differ", PromisesTest::promise16);
         Check.end();
     }
 
     /** Replica 0 made the elements 0, 1, 2 in a row and erased 1; nothing is delivered. */
     private static SideTreeText threeWithOneErased() {
-        SideTreeText x = new SideTreeText();
-        x.insert(0, 0, 'a');
-        x.insert(0, 1, 'b');
-        x.insert(0, 2, 'c');
-        x.erase(0, 1);
-        return x;
+        return new Run().type(0, 3).erase(0, 1).play();
     }
 
     /** Replica 0 made 30 elements and erased 20 of them: both other trays have 50 messages. */
     private static SideTreeText fullTrays() {
-        SideTreeText x = new SideTreeText();
-        for (int i = 0; i < 30; i++) {
-            x.insert(0, i, i);
-        }
-        for (int i = 0; i < 20; i++) {
-            x.erase(0, 0);
-        }
-        return x;
+        return Situation.bothTrays50AndMade30().run.play();
     }
 
     /** Two makers fill the tray of replica 2 with 50 messages while fewer than 30 elements are made. */
     private static SideTreeText fullTrayWithRoomForElements() {
-        SideTreeText x = new SideTreeText();
-        for (int i = 0; i < 20; i++) {
-            x.insert(0, i, i);
-        }
-        Probe.deliverAll(x, 1);
-        for (int i = 0; i < 20; i++) {
-            x.erase(0, 0);
-        }
-        for (int i = 0; i < 10; i++) {
-            x.erase(1, 0);
-        }
-        return x;
+        return Situation.slowTray(2, 50).run.play();
     }
 
     private static void promise1() {
@@ -376,59 +350,21 @@ public final class PromisesTest {
         Check.due("the last one erased", x.differ(0, 1), 1);
     }
 
-    private static void noSuchReplica() {
-        SideTreeText x = threeWithOneErased();
-        for (int r : NO_REPLICAS) {
-            Check.due("insert", x.insert(r, 0, 1), BAD);
-            Check.due("erase", x.erase(r, 0), BAD);
-            Check.due("deliver", x.deliver(r, 0), BAD);
-            Check.due("length", x.length(r), BAD);
-            Check.due("shown", x.shown(r, 0), BAD);
-            Check.due("shown nowhere", x.shown(r, -1), BAD);
-            Check.due("ordered", x.ordered(r, 0), BAD);
-            Check.due("ordered nowhere", x.ordered(r, -1), BAD);
-            Check.due("known", x.known(r), BAD);
-            Check.due("state", x.state(r, 0), BAD);
-            Check.due("state of none", x.state(r, -1), BAD);
-            Check.due("tray", x.tray(r), BAD);
-            Check.due("waiting", x.waiting(r), BAD);
-            Check.due("message", x.message(r, 0), BAD);
-            Check.due("message nowhere", x.message(r, -1), BAD);
-            Check.due("differ", x.differ(r, 0), BAD);
-            Check.due("differ", x.differ(0, r), BAD);
-            Check.due("differ", x.differ(r, r), BAD);
-        }
-        Check.due("BAD before FULL", fullTrays().insert(3, 0, 1), BAD);
-        Check.due("BAD before FULL", fullTrays().erase(3, 0), BAD);
-    }
-
-    private static void refusedCallsChangeNothing() {
-        SideTreeText x = threeWithOneErased();
-        x.deliver(1, 3);
-        String before = Probe.picture(x);
-        x.insert(0, 3, 1);
-        x.insert(0, -1, 1);
-        x.insert(3, 0, 1);
-        x.erase(0, 2);
-        x.erase(0, -1);
-        x.erase(-1, 0);
-        x.deliver(1, 3);
-        x.deliver(1, -1);
-        x.deliver(3, 0);
-        Check.due("after BAD", Probe.picture(x), before);
-
-        SideTreeText y = fullTrayWithRoomForElements();
-        y.insert(0, 0, 1);
-        y.insert(1, 0, 1);
-        y.erase(1, 0);
-        Check.due("after FULL", Probe.picture(y), Probe.picture(fullTrayWithRoomForElements()));
-    }
-
     private static void objectsAreApart() {
-        SideTreeText x = threeWithOneErased();
-        SideTreeText y = new SideTreeText();
-        Check.due("a new one is empty", y.made(), 0);
-        y.insert(1, 0, 'q');
-        Check.due("the old one is as it was", Probe.picture(x), Probe.picture(threeWithOneErased()));
+        SideTreeText old = threeWithOneErased();
+        SideTreeText young = new SideTreeText();
+        Check.due("a new one is empty", Probe.picture(young), Probe.picture(new SideTreeText()));
+        for (int n = 0; n < 4; n++) {
+            young.insert(1, 0, 200 + n);
+        }
+        young.erase(1, 3);
+        young.deliver(2, 1);
+        Check.due("the old one is as it was", Probe.picture(old), Probe.picture(threeWithOneErased()));
+        Check.due("the young one's order", Probe.order(young, 1), List.of(3, 2, 1, 0));
+        old.deliver(1, 0);
+        old.insert(2, 0, 'z');
+        Check.due("the young one's order is as it was", Probe.order(young, 1), List.of(3, 2, 1, 0));
+        Check.due("and where its last one hangs", Probe.hang(young, 3), List.of(2, 0, 2));
+        Check.due("and what waits there", young.waiting(2), 1);
     }
 }

@@ -50,15 +50,18 @@ public final class RefusalTest {
 
     public static void main(String[] args) {
         for (Situation situation : Situation.all()) {
-            situation.checkCounts();
-            RefusalTest test = new RefusalTest(situation);
-            test.refusedCallsAnswerTheFirstRefusalAndChangeNothing();
-            test.refusedCallsChangeNothingThatShowsLater();
-            test.callsWithinTheBoundsAreTaken();
-            test.everyQuestionWithoutReplicaIsBad();
-            test.questionsChangeNothing();
+            Check.test("Terms, the refusals: " + situation.name, new RefusalTest(situation)::all);
         }
         Check.end();
+    }
+
+    private void all() {
+        at.checkCounts();
+        refusedCallsAnswerTheFirstRefusalAndChangeNothing();
+        refusedCallsChangeNothingThatShowsLater();
+        callsWithinTheBoundsAreTaken();
+        everyQuestionWithoutReplicaIsBad();
+        questionsChangeNothing();
     }
 
     private void addCallsOf(int r) {

@@ -11,27 +11,43 @@ public final class TermsBoundaryTest {
     private static final int RIGHT = 1;
 
     public static void main(String[] args) {
-        replicasAreThree();
-        atMostThirtyElements();
-        erasedElementsCountAmongTheThirty();
-        refusedInsertionsUseUpNoNumber();
-        parentIsAnElementOrTheRoot();
-        rightOriginIsAnElementOrTheEnd();
-        endIsLaterThanAllElements();
-        rootHasRightChildrenAlone();
-        rootForPlaceZero();
-        rootForPlaceZeroWhenAllIsErased();
-        firstElementOfAllOrTheEndBehindTheRoot();
-        endBehindTheLastElement();
-        erasedElementsStandBehindToo();
-        rootAndEndAreReadyFromTheStart();
-        trayTakesFiftyMessages();
-        messagesGoBehindWhatIsThere();
-        mostMessagesThatCanWait();
-        wakingStopsWhenNoneIsReady();
-        badIsNamedBeforeFull();
-        objectServesForAll512Calls();
-        refusalsAndQuestionsAmongThe512Calls();
+        Check.test("Terms, REPLICAS and ELEMENTS: replicas are 0, 1, 2", TermsBoundaryTest::replicasAreThree);
+        Check.test("Terms, REPLICAS and ELEMENTS: at most 30 elements",
+                TermsBoundaryTest::atMostThirtyElements);
+        Check.test("Terms, REPLICAS and ELEMENTS: erased elements count among the 30",
+                TermsBoundaryTest::erasedElementsCountAmongTheThirty);
+        Check.test("Terms, REPLICAS and ELEMENTS: refused insertions use up no number",
+                TermsBoundaryTest::refusedInsertionsUseUpNoNumber);
+        Check.test("Terms, REPLICAS and ELEMENTS: a parent is an element or the root",
+                TermsBoundaryTest::parentIsAnElementOrTheRoot);
+        Check.test("Terms, REPLICAS and ELEMENTS: a right origin is an element or the end",
+                TermsBoundaryTest::rightOriginIsAnElementOrTheEnd);
+        Check.test("Terms, ORDER: the end is later than all elements",
+                TermsBoundaryTest::endIsLaterThanAllElements);
+        Check.test("Terms, ORDER: the root has right children alone",
+                TermsBoundaryTest::rootHasRightChildrenAlone);
+        Check.test("Terms, TO INSERT: a is the root for i = 0", TermsBoundaryTest::rootForPlaceZero);
+        Check.test("Terms, TO INSERT: a is the root for i = 0 when all is erased",
+                TermsBoundaryTest::rootForPlaceZeroWhenAllIsErased);
+        Check.test("Terms, TO INSERT: behind the root is the first element of all or the end",
+                TermsBoundaryTest::firstElementOfAllOrTheEndBehindTheRoot);
+        Check.test("Terms, TO INSERT: behind the last element is the end",
+                TermsBoundaryTest::endBehindTheLastElement);
+        Check.test("Terms, TO INSERT: erased ones stand behind too",
+                TermsBoundaryTest::erasedElementsStandBehindToo);
+        Check.test("Terms, MESSAGES: the root and the end are known from the start",
+                TermsBoundaryTest::rootAndEndAreReadyFromTheStart);
+        Check.test("Terms, MESSAGES: a tray takes 50 messages", TermsBoundaryTest::trayTakesFiftyMessages);
+        Check.test("Terms, MESSAGES: messages go behind what is there",
+                TermsBoundaryTest::messagesGoBehindWhatIsThere);
+        Check.test("Terms, MESSAGES: most messages that can wait", TermsBoundaryTest::mostMessagesThatCanWait);
+        Check.test("Terms, MESSAGES: waking stops when none is ready",
+                TermsBoundaryTest::wakingStopsWhenNoneIsReady);
+        Check.test("Terms, the refusals: BAD is named before FULL", TermsBoundaryTest::badIsNamedBeforeFull);
+        Check.test("What it is: an object serves for all 512 calls",
+                TermsBoundaryTest::objectServesForAll512Calls);
+        Check.test("What it is: refusals and questions are among the 512 calls",
+                TermsBoundaryTest::refusalsAndQuestionsAmongThe512Calls);
         Check.end();
     }
 
